@@ -636,6 +636,14 @@ public final class DrownedBells {
             cells[index] = value;
         }
 
+        /** Adds to a number, which becomes no more than the most. */
+        void raise(int index, int more, int most) {
+            if (index < 0 || index >= size || index >= cells.length) {
+                return;
+            }
+            cells[index] = Math.min(cells[index] + more, most);
+        }
+
         void add(int value) {
             if (size < 0 || size >= cells.length) {
                 return;
@@ -1143,7 +1151,7 @@ public final class DrownedBells {
                     if (book.standsAt(word, signs, place)) {
                         int kind = book.kinds.at(word);
                         int next = cell(place + book.sizes.at(word), stageAfter(kind));
-                        addWays(next, ways.at(cell(place, kind)));
+                        ways.raise(next, ways.at(cell(place, kind)), MOST_PARSES);
                     }
                 }
             }
@@ -1164,7 +1172,8 @@ public final class DrownedBells {
                 }
                 for (int word = 0; word < book.kinds.size(); word++) {
                     if (book.standsAt(word, signs, place)) {
-                        addWays(cell(place, book.kinds.at(word)), waysBehind(book, word, place));
+                        int here = cell(place, book.kinds.at(word));
+                        ways.raise(here, waysBehind(book, word, place), MOST_PARSES);
                     }
                 }
             }
@@ -1212,12 +1221,8 @@ public final class DrownedBells {
         /** A silence stands between two words, so none is passed by a sentence that waits for its name. */
         private void passSilence(int from, int to) {
             for (int stage = DEED; stage < STAGES; stage++) {
-                addWays(cell(to, stage), ways.at(cell(from, stage)));
+                ways.raise(cell(to, stage), ways.at(cell(from, stage)), MOST_PARSES);
             }
-        }
-
-        private void addWays(int cell, int more) {
-            ways.put(cell, Math.min(ways.at(cell) + more, MOST_PARSES));
         }
 
         private static boolean endsSilent(Row signs) {

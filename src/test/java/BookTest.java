@@ -139,6 +139,15 @@ public final class BookTest {
         x.strike(3);
         Checks.due("listed(0)", x.listed(0), 3);
         Checks.due("listed(7)", x.listed(7), -1);
+
+        DrownedBells y = new DrownedBells();
+        String[] falling = {"aaae", "aaad", "aaac", "aaab", "aaaa", "aa.a", "a..a", "a"};
+        for (String signs : falling) {
+            Checks.word(y, 1, signs);
+        }
+        for (int place = 0; place < 8; place++) {
+            Checks.due("signs that are next to one another", y.listed(place), 7 - place);
+        }
     }
 
     private static void writeBook() {

@@ -5,6 +5,7 @@ public final class ChangesTest {
         Checks.test("promise 30: account", ChangesTest::account);
         Checks.test("promise 37: reason", ChangesTest::reason);
         Checks.test("promise 38: undo of every change", ChangesTest::undoEvery);
+        Checks.test("promises 35, 38 and 40: bells that fell silent are taken back", ChangesTest::undoSilent);
         Checks.test("promise 38: undo, the latest eight", ChangesTest::undoEight);
         Checks.test("promise 38: what is not undone", ChangesTest::notUndone);
         Checks.test("promise 39: save", ChangesTest::save);
@@ -64,6 +65,9 @@ public final class ChangesTest {
         Checks.due("reasons", Checks.reasons(x), "3:3<-6:-6");
         Checks.read(x, "hang a 3;hang a 3");
         Checks.due("reasons", Checks.reasons(x), "7:1<2:3");
+        x.splice(3);
+        Checks.due("nothing lies behind any more", Checks.reasons(x), "3:3<-6:-6");
+        Checks.read(x, "hang a 3;hang a 3");
         Checks.read(x, "go 0");
         Checks.due("reasons", Checks.reasons(x), "7:0<-6:-6");
         x.ring();
@@ -125,6 +129,22 @@ public final class ChangesTest {
             Checks.due("undo of " + number, x.undo(), changes);
             Checks.due("state", state(x), before);
         }
+    }
+
+    private static void undoSilent() {
+        DrownedBells x = new DrownedBells();
+        Checks.ring(x, "aaaaaaaaaa");
+        x.save();
+        Checks.due("bells silent", x.account(5), 1);
+        Checks.ring(x, "aab");
+        Checks.due("bells silent", x.account(5), 3);
+        Checks.due("undo()", x.undo(), 1);
+        Checks.due("bells silent", x.account(5), 1);
+        Checks.ring(x, "abaa");
+        Checks.due("a text that is refused", Checks.read(x, "ring aab;ring a"), -5);
+        Checks.due("bells silent", x.account(5), 4);
+        x.restore();
+        Checks.due("bells silent", x.account(5), 1);
     }
 
     private static void undoEight() {

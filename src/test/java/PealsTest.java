@@ -7,6 +7,7 @@ public final class PealsTest {
         Checks.test("promise 10: the latest five are kept", PealsTest::latestFive);
         Checks.test("promises 14 and 15: parses and parsesAgain", PealsTest::parses);
         Checks.test("promises 14 and 15: the book as it is now", PealsTest::parsesNow);
+        Checks.test("promise 15: parsesAgain of each peal, nothing else asked before", PealsTest::parsesAgainAlone);
         Checks.test("promise 16: draftParses", PealsTest::draftParses);
         Checks.test("promise 16: draftParses, at most 9999", PealsTest::draftParsesMost);
         Checks.test("promise 17: said", PealsTest::said);
@@ -135,6 +136,22 @@ public final class PealsTest {
         Checks.due("after a strike", x.parses(0), 0);
     }
 
+    private static void parsesAgainAlone() {
+        DrownedBells x = Checks.withBook();
+        Checks.word(x, 2, "a");
+        Checks.word(x, 2, "e");
+        Checks.ring(x, "ab");
+        Checks.ring(x, "abca.e");
+        Checks.ring(x, "ab.cd");
+        int[] due = {1, 2, 0, -1};
+        for (int peal = 0; peal < 4; peal++) {
+            Checks.due("parsesAgain(" + peal + ")", x.parsesAgain(peal), due[peal]);
+        }
+        for (int peal = 3; peal >= 0; peal--) {
+            Checks.due("parses(" + peal + ")", x.parses(peal), due[peal]);
+        }
+    }
+
     private static void draftParses() {
         DrownedBells x = Checks.withBook();
         Checks.due("an empty draft", x.draftParses(), 0);
@@ -198,6 +215,7 @@ public final class PealsTest {
         Checks.ring(x, "c.c");
         Checks.due("silences(2)", x.silences(2), 0);
         Checks.due("silences(1)", x.silences(1), 4);
+        Checks.due("silences(1) again", x.silences(1), 4);
         Checks.due("silences(0)", x.silences(0), -6);
         Checks.due("silences(3)", x.silences(3), -1);
         Checks.due("silences(-1)", x.silences(-1), -1);
