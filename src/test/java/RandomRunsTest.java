@@ -1,6 +1,8 @@
-/** Long runs of calls, all promises mixed, compared with the model. The numbers come from a fixed row, so each run is the same. */
+/** Runs of up to 512 calls, all promises mixed, compared with the model. The numbers come from a fixed row, so each run is the same. */
 public final class RandomRunsTest {
-    private static final int STEPS = 200;
+    /** An object is used for at most 512 calls; no step makes more than 110. */
+    private static final int MOST_CALLS = 512;
+    private static final int MOST_CALLS_OF_A_STEP = 110;
     /** A draft of more than 12 signs stays for ever, so a run with one goes on for so many steps only. */
     private static final int MOST_TOO_LONG = 20;
     private static final int[] EXTREMES = {Integer.MIN_VALUE, Integer.MIN_VALUE + 1, -1000000007, -6, -2, -1, 10, 12, 13,
@@ -12,16 +14,17 @@ public final class RandomRunsTest {
     private Model y;
     private String[] pool;
     private int[] kinds;
+    private int calls = 0;
 
     private RandomRunsTest(long seed) {
         this.seed = seed;
     }
 
     public static void main(String[] args) {
-        Checks.test("promises 1 to 40: runs of all calls", () -> run(1500, 1));
-        Checks.test("promises 14 to 24: runs of peals that mean something", () -> run(1500, 2));
-        Checks.test("promises 34 to 40: runs of texts", () -> run(1500, 3));
-        Checks.test("wild numbers: nothing is thrown", () -> run(300, 4));
+        Checks.test("promises 1 to 40: runs of all calls", () -> run(4000, 1));
+        Checks.test("promises 14 to 24: runs of peals that mean something", () -> run(4000, 2));
+        Checks.test("promises 34 to 40: runs of texts", () -> run(4000, 3));
+        Checks.test("wild numbers: nothing is thrown", () -> run(1000, 4));
         Checks.test("promise 36: every beginning of texts, and each character at each place", RandomRunsTest::allFaults);
         Checks.close();
     }
@@ -46,13 +49,15 @@ public final class RandomRunsTest {
             enterBook();
         }
         int tooLong = 0;
-        for (int steps = 0; steps < STEPS && tooLong < MOST_TOO_LONG && Checks.countWrong() == 0; steps++) {
+        while (calls <= MOST_CALLS - MOST_CALLS_OF_A_STEP && tooLong < MOST_TOO_LONG && Checks.countWrong() == 0) {
+            int before = calls;
             if (way == 2) {
                 stepOfMeaning();
             } else {
                 step(way);
             }
             tooLong += y.account(7) > 12 ? 1 : 0;
+            Checks.due("a step makes few calls", calls - before <= MOST_CALLS_OF_A_STEP, true);
         }
     }
 
@@ -148,7 +153,7 @@ public final class RandomRunsTest {
 
     private String text() {
         StringBuilder text = new StringBuilder(command());
-        while (below(3) > 0) {
+        while (below(3) > 0 && text.length() < 55) {
             text.append(';').append(command());
         }
         if (below(4) == 0) {
@@ -163,9 +168,15 @@ public final class RandomRunsTest {
     // ---- calls
 
     private void same(String call, long got, long want) {
+        calls++;
         if (got != want) {
             Checks.due("seed " + seed + ": " + call, got, want);
         }
+    }
+
+    private void sameExactly(String call, double got, double want) {
+        calls++;
+        Checks.dueExactly(call, got, want);
     }
 
     private int number(int bound, int way) {
@@ -268,7 +279,7 @@ public final class RandomRunsTest {
         same("swimmerOf " + swimmer, x.swimmerOf(swimmer, 3), y.swimmerOf(swimmer, 3));
         same("ranked " + place, x.ranked(place), y.ranked(place));
         same("isCounted", x.isCounted() ? 1 : 0, 1);
-        Checks.dueExactly("meantShare", x.meantShare(), y.meantShare());
+        sameExactly("meantShare", x.meantShare(), y.meantShare());
         askLine(peal, place);
     }
 
@@ -321,8 +332,8 @@ public final class RandomRunsTest {
             case 14 -> same("listed " + c, x.listed(c), y.listed(c));
             case 15 -> same("isCounted", x.isCounted() ? 1 : 0, y.isCounted() ? 1 : 0);
             case 16 -> {
-                Checks.dueExactly("meanWear", x.meanWear(), y.meanWear());
-                Checks.dueExactly("meantShare", x.meantShare(), y.meantShare());
+                sameExactly("meanWear", x.meanWear(), y.meanWear());
+                sameExactly("meantShare", x.meantShare(), y.meantShare());
             }
             case 17 -> same("account " + c, x.account(c), y.account(c));
             default -> askLine(a, c);
@@ -336,7 +347,8 @@ public final class RandomRunsTest {
             same("writeBook", x.writeBook(), y.writeBook());
         }
         same("written " + index, x.written(index), y.written(index));
-        for (int place = -1; place <= 60; place++) {
+        int step = below(6) == 0 ? 1 : 7 + below(12);
+        for (int place = -1; place <= 60; place += step) {
             same("written " + place, x.written(place), y.written(place));
         }
     }

@@ -85,8 +85,7 @@ public final class TextsTest {
     }
 
     private static void dueRefused(DrownedBells x, String text, String reasons) {
-        Checks.due("read of " + text, Checks.read(x, text), -5);
-        Checks.due("reasons of " + text, Checks.reasons(x), reasons);
+        Checks.dueRefused(x, "read of " + text, Checks.read(x, text), reasons);
     }
 
     private static void refused() {
@@ -150,58 +149,57 @@ public final class TextsTest {
         Checks.due("swimmers", x.account(1), 3);
     }
 
-    private static void dueFault(DrownedBells x, String text, int position) {
-        int changes = x.account(9);
+    private static void dueFault(String text, int position) {
+        DrownedBells x = new DrownedBells();
         Checks.due("read of \"" + text + "\"", Checks.read(x, text), -2);
         Checks.due("fault of \"" + text + "\"", x.fault(), position);
         Checks.due("characters", x.account(8), 0);
-        Checks.due("changes", x.account(9), changes);
+        Checks.due("changes", x.account(9), 0);
+        Checks.due("words", x.account(0), 0);
+        Checks.due("reason", x.reason(0, false), -3);
     }
 
     private static void faults() {
-        DrownedBells x = new DrownedBells();
-        Checks.due("fault()", x.fault(), -3);
+        Checks.due("fault()", new DrownedBells().fault(), -3);
         String[] endsTooEarly = {
             "", "h", "hang", "hang ", "hang a", "hang a ", "s", "sp", "splice", "splice ", "st", "strike ", "sw",
             "swim ", "swim 1", "swim 1 ", "w", "word ", "word n", "word d ", "d", "dive ", "dive 0", "dive 0 ", "g",
             "go", "go ", "r", "ring", "ring ", "hang a 2;", "ring a;", "go 0;s"};
         for (String text : endsTooEarly) {
-            dueFault(x, text, text.length());
+            dueFault(text, text.length());
         }
-        dueFault(x, " hang a 2", 0);
-        dueFault(x, "Hang a 2", 0);
-        dueFault(x, "a", 0);
-        dueFault(x, "sa", 1);
-        dueFault(x, "sprice a", 2);
-        dueFault(x, "swing", 3);
-        dueFault(x, "do", 1);
-        dueFault(x, "hang  a 2", 5);
-        dueFault(x, "hang f 2", 5);
-        dueFault(x, "hang . 2", 5);
-        dueFault(x, "hang a2", 6);
-        dueFault(x, "hang a x", 7);
-        dueFault(x, "hang a 12", 8);
-        dueFault(x, "hang a 2 ", 8);
-        dueFault(x, "hang a 2; splice a", 9);
-        dueFault(x, "hang a 2;;", 9);
-        dueFault(x, "splice 0", 7);
-        dueFault(x, "word x a", 5);
-        dueFault(x, "word na", 6);
-        dueFault(x, "word n f", 7);
-        dueFault(x, "word n abf", 9);
-        dueFault(x, "word n ab c", 9);
-        dueFault(x, "strike a", 7);
-        dueFault(x, "swim a", 5);
-        dueFault(x, "swim 1:", 6);
-        dueFault(x, "swim 1 /", 7);
-        dueFault(x, "dive 0-1", 6);
-        dueFault(x, "go 0 0", 4);
-        dueFault(x, "go a", 3);
-        dueFault(x, "ring ab,", 7);
-        dueFault(x, "ring ;", 5);
-        dueFault(x, "word n a;word n a;x", 18);
-        Checks.due("words", x.account(0), 0);
-        Checks.due("reason", x.reason(0, false), -3);
+        dueFault(" hang a 2", 0);
+        dueFault("Hang a 2", 0);
+        dueFault("a", 0);
+        dueFault("sa", 1);
+        dueFault("sprice a", 2);
+        dueFault("swing", 3);
+        dueFault("do", 1);
+        dueFault("hang  a 2", 5);
+        dueFault("hang f 2", 5);
+        dueFault("hang . 2", 5);
+        dueFault("hang a2", 6);
+        dueFault("hang a x", 7);
+        dueFault("hang a 12", 8);
+        dueFault("hang a 2 ", 8);
+        dueFault("hang a 2; splice a", 9);
+        dueFault("hang a 2;;", 9);
+        dueFault("splice 0", 7);
+        dueFault("word x a", 5);
+        dueFault("word na", 6);
+        dueFault("word n f", 7);
+        dueFault("word n abf", 9);
+        dueFault("word n ab c", 9);
+        dueFault("strike a", 7);
+        dueFault("swim a", 5);
+        dueFault("swim 1:", 6);
+        dueFault("swim 1 /", 7);
+        dueFault("dive 0-1", 6);
+        dueFault("go 0 0", 4);
+        dueFault("go a", 3);
+        dueFault("ring ab,", 7);
+        dueFault("ring ;", 5);
+        dueFault("word n a;word n a;x", 18);
     }
 
     private static void faultKept() {
