@@ -1,3 +1,6 @@
+import java.util.HashSet;
+import java.util.Set;
+
 /**
  * What every test of the project uses: named tests, answers that are due, and the counts at the end. A class of tests
  * may extend it, so that these names stand there alone.
@@ -10,9 +13,29 @@ abstract class Checks {
     private static int passed = 0;
     private static int failed = 0;
     private static int wrong = 0;
+    private static final Set<String> NAMES = new HashSet<>();
+    /** Far more than the slowest class of tests takes; a loop that has no end must fail, too. */
+    private static final long MOST_MILLISECONDS = 300_000;
+
+    static {
+        Thread watch = new Thread(Checks::endWhatHasNoEnd);
+        watch.setDaemon(true);
+        watch.start();
+    }
+
+    private static void endWhatHasNoEnd() {
+        try {
+            Thread.sleep(MOST_MILLISECONDS);
+        } catch (InterruptedException early) {
+            return;
+        }
+        System.out.println("FAILED: the tests do not end");
+        Runtime.getRuntime().halt(1);
+    }
 
     static void test(String name, Runnable body) {
         wrong = 0;
+        due("a name of its own", NAMES.add(name), true);
         try {
             body.run();
         } catch (RuntimeException | Error thrown) {

@@ -397,7 +397,22 @@ public final class EdgesOfChangesTest extends Checks {
             due("state", state(x), before);
             due("signs of the draft", x.account(7), 15);
         });
-        test("Terms, Changes: a peal or a swimmer that is not there changes no line", () -> {
+        test("Terms, Changes: read of a text with a fault changes nothing but the input and the fault position", () -> {
+            DrownedBells x = villageWithAll();
+            String before = state(x) + x.account(7) + " " + x.account(9) + " " + line(x) + " " + reasons(x);
+            due("read", read(x, " 0;hang a 9;ring"), -2);
+            due("the rest", state(x) + x.account(7) + " " + x.account(9) + " " + line(x) + " " + reasons(x), before);
+            due("input", x.account(8), 0);
+            due("fault", x.fault(), 18);
+        });
+        test("Terms, Changes: read of a text that is refused changes nothing but the input and the reason", () -> {
+            DrownedBells x = villageWithAll();
+            String before = state(x) + x.account(7) + " " + x.account(9) + " " + line(x) + " " + x.fault();
+            dueRefused(x, "read", read(x, " 0;hang a 9;ring a;word n ab"), "7:3<2:0");
+            due("the rest", state(x) + x.account(7) + " " + x.account(9) + " " + line(x) + " " + x.fault(), before);
+            due("input", x.account(8), 0);
+        });
+        test("Terms, Changes: a peal that is not there changes no line", () -> {
             DrownedBells x = villageWithAll();
             due("write(1)", x.write(1), -1);
             due("write(-1)", x.write(-1), -1);
@@ -673,14 +688,12 @@ public final class EdgesOfChangesTest extends Checks {
             due("ab..c.d..d", x.understands(0, 0), 1);
             due("said", saying(x, 0), saying(x, 1));
         });
-        test("Terms, In doubt: as many words, of which one is another, are not the same", () -> {
-            DrownedBells x = book("n:a", "d:b", "t:ded", "t:d.d");
-            x.hang(4, 9);
-            x.swim(1, 1);
-            ring(x, "abded");
-            due("parses", x.parses(0), 1);
-            due("heard abd.d", x.understands(0, 0), 2);
-        });
+        test("Terms, In doubt: as many words, of which the name is another one, are not the same", () ->
+            dueMisunderstood("dedab", "d.dab", "n:ded", "n:d.d", "d:a", "t:b"));
+        test("Terms, In doubt: as many words, of which the deed is another one, are not the same", () ->
+            dueMisunderstood("adedb", "ad.db", "d:ded", "d:d.d", "n:a", "t:b"));
+        test("Terms, In doubt: as many words, of which the last thing is another one, are not the same", () ->
+            dueMisunderstood("abded", "abd.d", "t:ded", "t:d.d", "n:a", "d:b"));
         test("Terms, In doubt: the same words and one more are not the same", () -> {
             DrownedBells x = book("n:a", "d:b", "t:ded", "t:d");
             x.hang(4, 9);
@@ -699,6 +712,21 @@ public final class EdgesOfChangesTest extends Checks {
             ring(x, "abec");
             due("heard ab.c, the thing in between is missing", x.understands(0, 0), 2);
         });
+    }
+
+    /** The bell e is too deep to be heard; the peal means something, and so does what is heard of it. */
+    private static void dueMisunderstood(String signs, String heard, String... words) {
+        DrownedBells x = book(words);
+        x.hang(4, 9);
+        x.swim(1, 1);
+        ring(x, heard);
+        ring(x, signs);
+        due("heard", heard(x, 0, 0), heard);
+        due("parses of " + signs, x.parses(0), 1);
+        due("parses of " + heard, x.parses(1), 1);
+        due("understands(0, 0)", x.understands(0, 0), 2);
+        due("understands(0, 1)", x.understands(0, 1), 1);
+        due("needs(0, 0)", x.needs(0, 0), 8);
     }
 
     private static void inDoubtOfNow() {

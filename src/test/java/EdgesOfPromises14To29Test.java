@@ -278,6 +278,20 @@ public final class EdgesOfPromises14To29Test extends Checks {
             }
             due("signOf(1, 2)", twoPeals().signOf(1, 2), -1);
         });
+        test("promise 19: signOf returns NONE beside each peal, also where signs of another one could lie", () -> {
+            DrownedBells x = new DrownedBells();
+            for (int peal = 0; peal < 5; peal++) {
+                ring(x, "abcdeabcdeab");
+                spliceAll(x);
+            }
+            for (int peal = 0; peal < 5; peal++) {
+                for (int place : new int[] {-1, -12, -13, 12, 13, 24}) {
+                    due("signOf(" + peal + ", " + place + ")", x.signOf(peal, place), -1);
+                }
+            }
+            due("signOf(-1, 12)", x.signOf(-1, 12), -1);
+            due("signOf(5, -1)", x.signOf(5, -1), -1);
+        });
     }
 
     private static void hears() {
@@ -315,6 +329,19 @@ public final class EdgesOfPromises14To29Test extends Checks {
                 due("hears(0, 0, " + place + ")", x.hears(0, 0, place), -1);
             }
             due("hears(0, 0, 4)", x.hears(0, 0, 4), 3);
+        });
+        test("promise 20: hears returns NONE beside each peal, also where signs of another one could lie", () -> {
+            DrownedBells x = new DrownedBells();
+            x.swim(1, 9);
+            for (int peal = 0; peal < 5; peal++) {
+                ring(x, "abcdeabcdeab");
+                spliceAll(x);
+            }
+            for (int peal = 0; peal < 5; peal++) {
+                for (int place : new int[] {-1, -12, -13, 12, 13, 24}) {
+                    due("hears(0, " + peal + ", " + place + ")", x.hears(0, peal, place), -1);
+                }
+            }
         });
     }
 
